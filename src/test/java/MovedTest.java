@@ -67,7 +67,6 @@ public final class MovedTest {
         moved(x, 0, "1 0 0");
         moved(x, 1, "0 1 0");
         moved(x, 2, "0 0 1");
-        // a zone that cannot give elsewhere holds the place: c only to a, d gives what is left
         x = Checks.map("aabbc/ddddc", "abaca/aabba", "00000/00000");
         Checks.counts(x, 0, "a=1,b=1,c=1,d=2");
         x.settle(0, 1);
@@ -76,12 +75,6 @@ public final class MovedTest {
         moved(x, 1, "0 0 1");
         moved(x, 2, "1 0 0");
         moved(x, 3, "1 1 0");
-        // a must give to b, as a of NEW has a half and a half together, and b another zone
-        x = Checks.map("aab/bbb", "abb/bbb", "000/000");
-        Checks.counts(x, 0, "a=1,b=1");
-        x.settle(0, 1);
-        moved(x, 0, "1 0 0");
-        moved(x, 1, "0 1 0");
     }
 
     private static void sums() {
