@@ -1071,14 +1071,10 @@ public final class ZoneShares {
 
         void round(Table table, boolean balanced) {
             table.cut();
-            if (balanced) {
-                balance(table);
-            } else {
+            if (!balanced) {
                 table.giveByRests();
+                return;
             }
-        }
-
-        private void balance(Table table) {
             open(table);
             for (int row = 0; row < ZONES; row++) {
                 fillRow(row, table.leftOver(row));
