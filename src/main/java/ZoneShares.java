@@ -330,7 +330,7 @@ public final class ZoneShares {
         if (all == 0) {
             return NONE;
         }
-        return lowest(fitter.missed(all), all, what);
+        return lowest(fitter.missed(), all, what);
     }
 
     public int byWay(int group, int zone) {
@@ -1380,12 +1380,16 @@ public final class ZoneShares {
     private static final class Fitter {
         final int[] best = new int[LANDS];
         long people;
+        /** How many ZONES OLD has: they stand first in the rows below. */
+        private int zones;
         private final int[] counted = new int[ZONES];
         /** By ZONE and LAND how many cells there are. */
         private final int[] cells = new int[ZONES * LANDS];
         private final int[] landCells = new int[LANDS];
-        private final int[] weighed = new int[ZONES];
         private final int[] row = new int[LANDS];
+        /** What the cells of each ZONE weigh, and those of all. */
+        private final int[] weighed = new int[ZONES];
+        private long weighedInAll;
         private long bestMisfit;
         private long bestSum;
 
@@ -1393,42 +1397,52 @@ public final class ZoneShares {
         void look(State map, int group) {
             Arrays.fill(cells, 0);
             Arrays.fill(landCells, 0);
-            int all = map.cells();
-            for (int cell = 0; cell < all; cell++) {
-                int zone = map.at(OLD, cell);
-                if (zone < ZONES) {
-                    cells[zone * LANDS + map.at(LAND, cell)]++;
-                    landCells[map.at(LAND, cell)]++;
-                }
-            }
+            zones = 0;
             people = 0;
             for (int zone = 0; zone < ZONES; zone++) {
-                boolean there = map.cellsOf(OLD, zone) > 0;
-                counted[zone] = there ? map.counted[group * SLOTS + zone] : 0;
-                people += counted[zone];
+                if (map.cellsOf(OLD, zone) > 0) {
+                    countCells(map, zone);
+                    counted[zones] = map.counted[group * SLOTS + zone];
+                    people += counted[zones];
+                    zones++;
+                }
             }
             System.arraycopy(map.weights, group * LANDS, best, 0, LANDS);
         }
 
-        /** Weighs the cells of each ZONE by four WEIGHTS: all of them together. */
-        long load(int[] weights, int first) {
-            long all = 0;
-            for (int zone = 0; zone < ZONES; zone++) {
-                int sum = 0;
-                for (int land = 0; land < LANDS; land++) {
-                    sum += weights[first + land] * cells[zone * LANDS + land];
+        private void countCells(State map, int zone) {
+            int all = map.cells();
+            for (int cell = 0; cell < all; cell++) {
+                if (map.at(OLD, cell) == zone) {
+                    int land = map.at(LAND, cell);
+                    cells[zones * LANDS + land]++;
+                    landCells[land]++;
                 }
-                weighed[zone] = sum;
-                all += sum;
             }
-            return all;
         }
 
-        /** The MISFIT of the cells as weighed, over all that they weigh. */
-        long missed(long all) {
+        /** Weighs all cells by four WEIGHTS from a place on: what they weigh together. */
+        long load(int[] weights, int first) {
+            Arrays.fill(weighed, 0);
+            weighedInAll = 0;
+            for (int land = 0; land < LANDS; land++) {
+                addWeight(land, weights[first + land]);
+            }
+            return weighedInAll;
+        }
+
+        private void addWeight(int land, int weight) {
+            for (int zone = 0; zone < zones; zone++) {
+                weighed[zone] += weight * cells[zone * LANDS + land];
+            }
+            weighedInAll += weight * landCells[land];
+        }
+
+        /** The MISFIT of the cells as weighed, times what they weigh together. */
+        long missed() {
             long sum = 0;
-            for (int zone = 0; zone < ZONES; zone++) {
-                sum += Math.abs(counted[zone] * all - people * weighed[zone]);
+            for (int zone = 0; zone < zones; zone++) {
+                sum += Math.abs(counted[zone] * weighedInAll - people * weighed[zone]);
             }
             return sum;
         }
@@ -1439,24 +1453,23 @@ public final class ZoneShares {
                 rows *= landCells[land] > 0 ? MOST_WEIGHT + 1 : 1;
                 row[land] = landCells[land] > 0 ? 0 : best[land];
             }
+            load(row, 0);
             bestSum = 0;
             bestMisfit = 1;
             // no row is better than one without any misfit
             for (int each = 0; each < rows && bestMisfit > 0; each++) {
-                tryRow();
+                if (weighedInAll > 0) {
+                    tryRow();
+                }
                 nextRow();
             }
         }
 
         private void tryRow() {
-            long all = load(row, 0);
-            if (all == 0) {
-                return;
-            }
-            long misfit = missed(all);
-            if (bestSum == 0 || misfit * bestSum < bestMisfit * all) {
+            long misfit = missed();
+            if (bestSum == 0 || misfit * bestSum < bestMisfit * weighedInAll) {
                 bestMisfit = misfit;
-                bestSum = all;
+                bestSum = weighedInAll;
                 System.arraycopy(row, 0, best, 0, LANDS);
             }
         }
@@ -1464,11 +1477,14 @@ public final class ZoneShares {
         /** Counts up, the last LAND first; WEIGHTS of LANDS that no ZONE has stay. */
         private void nextRow() {
             for (int land = LANDS - 1; land >= 0; land--) {
+                if (landCells[land] > 0 && row[land] < MOST_WEIGHT) {
+                    row[land]++;
+                    addWeight(land, 1);
+                    return;
+                }
                 if (landCells[land] > 0) {
-                    row[land] = row[land] < MOST_WEIGHT ? row[land] + 1 : 0;
-                    if (row[land] > 0) {
-                        return;
-                    }
+                    addWeight(land, -row[land]);
+                    row[land] = 0;
                 }
             }
         }
