@@ -9,6 +9,8 @@ public final class ZoneShares {
 
     /** What an act answers if all is so already; a FAULT is counted down from here, too. */
     private static final int NOTHING = -2;
+    /** The least long: what a call that answers bits answers without these. */
+    private static final long NO_BITS = 1L << 63;
     private static final int GROUPS = 3;
     private static final int ZONES = 8;
     private static final int OUT = 8;
@@ -384,11 +386,11 @@ public final class ZoneShares {
 
     public long dense(int group, int zone, int what) {
         if (!isGroup(group) || !isZone(zone) || !now.whole() || what < 0 || what > 3) {
-            return Long.MIN_VALUE;
+            return NO_BITS;
         }
         int cells = now.cellsOf(NEW, zone);
         if (cells == 0) {
-            return Long.MIN_VALUE;
+            return NO_BITS;
         }
         Group view = groups[group];
         view.ready(Group.MOVES);
@@ -407,7 +409,7 @@ public final class ZoneShares {
 
     public long off(int group) {
         if (!isGroup(group) || !now.whole()) {
-            return Long.MIN_VALUE;
+            return NO_BITS;
         }
         Group view = groups[group];
         view.ready(Group.MOVES);
@@ -774,15 +776,15 @@ public final class ZoneShares {
         int columns;
         private int filled;
         private int mostRows;
-        private boolean wide;
-        private boolean high;
+        private boolean widthKnown;
+        private boolean asLargeAsOld;
 
         /** The FAULT of the text; NONE if it has none: then the signs are as it tells. */
         int read(Tape tape, int layer, State map) {
-            wide = layer != OLD;
-            high = layer != OLD;
-            columns = wide ? map.columns : MOST_COLUMNS;
-            mostRows = high ? map.rows : MOST_ROWS;
+            asLargeAsOld = layer != OLD;
+            widthKnown = asLargeAsOld;
+            columns = asLargeAsOld ? map.columns : MOST_COLUMNS;
+            mostRows = asLargeAsOld ? map.rows : MOST_ROWS;
             rows = 0;
             filled = 0;
             for (int place = 0; place <= tape.length; place++) {
@@ -820,19 +822,19 @@ public final class ZoneShares {
             if (filled == 0 || sign != '/' && sign != NONE) {
                 return 1;
             }
-            if (wide && filled < columns) {
+            if (widthKnown && filled < columns) {
                 return 2;
             }
             if (sign == '/') {
                 return rows + 1 >= mostRows ? 3 : 0;
             }
-            return high && rows + 1 < mostRows ? 4 : 0;
+            return asLargeAsOld && rows + 1 < mostRows ? 4 : 0;
         }
 
         private void endRow() {
-            // the first row tells how wide OLD is
+            // the first row tells how widthKnown OLD is
             columns = filled;
-            wide = true;
+            widthKnown = true;
             rows++;
             filled = 0;
         }

@@ -41,6 +41,9 @@ public final class ModelTest {
     }
 
     private void run(List<Method> asked) throws Exception {
+        for (int what = 0; what < 2; what++) {
+            ask("settle", what, random.nextInt(2));
+        }
         while (calls.size() < CALLS) {
             int kind = random.nextInt(100);
             if (toldLayers < 3 || kind < 4) {
@@ -53,7 +56,7 @@ public final class ModelTest {
                 if (!act || random.nextInt(3) == 0) {
                     Object[] args = new Object[m.getParameterCount()];
                     for (int k = 0; k < args.length; k++) {
-                        args[k] = number(m.getName());
+                        args[k] = number(m.getName(), k);
                     }
                     ask(m, args);
                 }
@@ -61,7 +64,7 @@ public final class ModelTest {
         }
     }
 
-    private int number(String name) {
+    private int number(String name, int place) {
         int kind = random.nextInt(60);
         if (kind == 0) {
             return random.nextInt();
@@ -69,13 +72,37 @@ public final class ModelTest {
         if (kind == 1) {
             return random.nextBoolean() ? Integer.MIN_VALUE : Integer.MAX_VALUE;
         }
-        if (kind < 6) {
+        if (kind < 5) {
             return -1 + random.nextInt(3);
         }
-        if (name.equals("densest") || name.equals("piece")) {
-            return random.nextInt(random.nextInt(2) == 0 ? 4 : 30);
+        if (kind == 5) {
+            return random.nextInt(12);
         }
-        return random.nextInt(kind < 40 ? 3 : 12);
+        return usual(name, place);
+    }
+
+    /** A number that stands at this place in most calls. */
+    private int usual(String name, int place) {
+        switch (name) {
+            case "settle":
+                return random.nextInt(2);
+            case "district":
+                return random.nextInt(place == 0 ? 8 : 4);
+            case "weigh":
+                return place == 0 ? random.nextInt(4) - 1 : random.nextInt(place == 1 ? 4 : 10);
+            case "apart":
+            case "districtOf":
+            case "count":
+                return random.nextInt(12);
+            case "cell":
+            case "surface":
+                return random.nextInt(place == 0 ? 3 : place == 3 ? 2 : 12);
+            case "densest":
+            case "piece":
+                return random.nextInt(place == 0 && name.equals("densest") || place == 1 ? 4 : 30);
+            default:
+                return random.nextInt(place == 0 ? 3 : random.nextBoolean() ? 3 : 9);
+        }
     }
 
     private void ask(Method m, Object... args) throws Exception {

@@ -88,6 +88,15 @@ public final class MovedTest {
         Checks.due("moved(1, -1, -1)", x.moved(1, -1, -1), 2);
         Checks.due("moved(1, 0, -1)", x.moved(1, 0, -1), 0);
         Checks.due("moved(0, 7, 0)", x.moved(0, 7, 0), 0);
+        ZoneShares y = Checks.map("ahhh", "hh.h", "0000");
+        Checks.counts(y, 0, "a=4,h=7");
+        Checks.due("moved(0, -1, 7)", y.moved(0, -1, 7), 4 + 5);
+        Checks.due("moved(0, -1, 8)", y.moved(0, -1, 8), 2);
+        Checks.due("moved(0, 7, 7)", y.moved(0, 7, 7), 5);
+        Checks.due("returned(0, 7)", y.returned(0, 7), 6);
+        Checks.due("astray(0)", y.astray(0), 1 + 1);
+        Checks.due("coarse(0, 0, 1)", y.coarse(0, 0, 1), 9);
+        Checks.due("byWay(0, 7)", y.byWay(0, 7), 9);
         Checks.due("moved(0, 0, 7)", x.moved(0, 0, 7), 0);
     }
 
