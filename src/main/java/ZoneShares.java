@@ -832,7 +832,7 @@ public final class ZoneShares {
         }
 
         private void endRow() {
-            // the first row tells how widthKnown OLD is
+            // the first row tells how wide OLD is
             columns = filled;
             widthKnown = true;
             rows++;
