@@ -217,14 +217,14 @@ public final class ZoneShares {
     }
 
     public int piece(int k, int what) {
-        if (!now.whole()) {
+        if (!now.whole() || k < NONE || what < 0 || what > 3) {
             return NONE;
         }
         int pieces = countPieces();
         if (k == NONE) {
             return pieces;
         }
-        if (k < 0 || k >= pieces || what < 0 || what > 3) {
+        if (k >= pieces) {
             return NONE;
         }
         int place = placeOfPiece(k);

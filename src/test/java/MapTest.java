@@ -2,6 +2,7 @@
 public final class MapTest {
     public static void main(String[] args) {
         pieces();
+        howManyPieces();
         shares();
         zoningsApart();
         numbers();
@@ -37,6 +38,24 @@ public final class MapTest {
         Checks.layer(y, 1, "a");
         Checks.due("without LAND", y.piece(0, 0), -1);
         Checks.due("without LAND", y.piece(-1, 0), -1);
+    }
+
+    /** The k of how many there are is no way round the what: that must be 0 to 3 there, too. */
+    private static void howManyPieces() {
+        ZoneShares x = Checks.map("aab/abb", "aba/cb.", "012/001");
+        for (int what = 0; what <= 3; what++) {
+            Checks.due("piece(-1, " + what + ")", x.piece(-1, what), 6);
+        }
+        ZoneShares none = Checks.map("...", "a.b", "000");
+        Checks.due("without a PIECE piece(-1, 3)", none.piece(-1, 3), 0);
+        ZoneShares y = new ZoneShares();
+        Checks.layer(y, 0, "a");
+        for (int what : new int[] {-2, -1, 4, 5, 8, 9, Integer.MIN_VALUE, Integer.MAX_VALUE}) {
+            Checks.due("piece(-1, " + what + ")", x.piece(-1, what), -1);
+            Checks.due("piece(0, " + what + ")", x.piece(0, what), -1);
+            Checks.due("without a PIECE piece(-1, " + what + ")", none.piece(-1, what), -1);
+            Checks.due("without a whole MAP piece(-1, " + what + ")", y.piece(-1, what), -1);
+        }
     }
 
     private static void share(ZoneShares x, int old, int zone, int numerator, int denominator) {

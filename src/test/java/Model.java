@@ -350,7 +350,7 @@ final class Model {
     }
 
     int piece(int k, int what) {
-        if (!whole()) {
+        if (!whole() || what < 0 || what > 3) {
             return -1;
         }
         List<int[]> pieces = new ArrayList<>();
@@ -370,7 +370,7 @@ final class Model {
         if (k == -1) {
             return pieces.size();
         }
-        return k < 0 || k >= pieces.size() || what < 0 || what > 3 ? -1 : pieces.get(k)[what];
+        return k < 0 || k >= pieces.size() ? -1 : pieces.get(k)[what];
     }
 
     int apart(int what) {

@@ -97,9 +97,10 @@ public final class ModelTest {
             case "cell":
             case "surface":
                 return random.nextInt(place == 0 ? 3 : place == 3 ? 2 : 12);
-            case "densest":
             case "piece":
-                return random.nextInt(place == 0 && name.equals("densest") || place == 1 ? 4 : 30);
+                return place == 0 ? random.nextInt(24) - 4 : random.nextInt(6) - 1;
+            case "densest":
+                return random.nextInt(place == 0 ? 4 : 30);
             default:
                 return random.nextInt(place == 0 ? 3 : random.nextBoolean() ? 3 : 9);
         }
