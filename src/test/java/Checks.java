@@ -2,15 +2,24 @@
 final class Checks {
     private static int asked = 0;
     private static int wrong = 0;
+    private static String sentence = "";
 
     private Checks() {
+    }
+
+    /**
+     * Names the words that the answers from here on are due by, as the document has them in
+     * its Terms I or II or in a promise: SentencesTest holds these against the document.
+     */
+    static void says(String section, String words) {
+        sentence = " [" + section + ": " + words + "]";
     }
 
     static void due(String call, long got, long want) {
         asked++;
         if (got != want) {
             wrong++;
-            System.out.println(call + " answered " + got + ", due is " + want);
+            System.out.println(call + " answered " + got + ", due is " + want + sentence);
         }
     }
 
