@@ -245,7 +245,7 @@ public final class ZoneShares {
             return NONE;
         }
         Group view = groups[group];
-        view.ready(Group.LIVES);
+        view.makeLives();
         if (what < ZONES) {
             return view.lives[what];
         }
@@ -582,7 +582,7 @@ public final class ZoneShares {
         int sum = 0;
         for (int group = 0; group < GROUPS && now.whole(); group++) {
             Group view = groups[group];
-            view.ready(Group.LIVES);
+            view.makeLives();
             sum += thoseMoved ? now.toldOf(group) - view.aside : view.aside;
         }
         return sum;
@@ -1239,10 +1239,9 @@ public final class ZoneShares {
             this.rounder = rounder;
         }
 
+        /** Makes what is asked for, and what it follows from. */
         Group ready(int what) {
-            if (lacks(LIVES)) {
-                shareUnknown();
-            }
+            makeLives();
             if ((what == MOVES || what == BACK || what == ORDER) && lacks(MOVES)) {
                 fillMoves();
                 rounder.round(moves, map.rounding == 1);
@@ -1263,6 +1262,13 @@ public final class ZoneShares {
                 sortCells();
             }
             return this;
+        }
+
+        /** Who lives where in OLD, which needs none of the tables. */
+        void makeLives() {
+            if (lacks(LIVES)) {
+                shareUnknown();
+            }
         }
 
         private boolean lacks(int what) {

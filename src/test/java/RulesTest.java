@@ -7,7 +7,11 @@ import java.nio.file.Path;
 import java.util.ArrayList;
 import java.util.Arrays;
 import java.util.Collections;
+import java.util.HashMap;
+import java.util.HashSet;
 import java.util.List;
+import java.util.Map;
+import java.util.Set;
 import java.util.regex.Matcher;
 import java.util.regex.Pattern;
 
@@ -20,6 +24,9 @@ public final class RulesTest {
         String source = Files.readString(Path.of("src/main/java/ZoneShares.java"), StandardCharsets.US_ASCII);
         words(source);
         methodLengths(source);
+        depths(source);
+        Checks.says("Constants", "The constants: `NONE = -1`: None.");
+        Checks.due("NONE", ZoneShares.NONE, -1);
         Checks.finish("RulesTest");
     }
 
@@ -55,7 +62,6 @@ public final class RulesTest {
             boolean none = field.getName().equals("NONE");
             Checks.due(field + " is private", Modifier.isPrivate(field.getModifiers()) != none);
         }
-        Checks.due("NONE", ZoneShares.NONE, -1);
     }
 
     private static void classes(Class<?> kind) {
@@ -77,7 +83,7 @@ public final class RulesTest {
     }
 
     private static void words(String source) {
-        String code = source.replaceAll("(?s)/\\*.*?\\*/", " ").replaceAll("//.*", " ");
+        String code = bare(source);
         Matcher imports = Pattern.compile("import (.*);").matcher(code);
         while (imports.find()) {
             Checks.due("import " + imports.group(1), imports.group(1).equals("java.util.Arrays"));
@@ -110,5 +116,55 @@ public final class RulesTest {
                 Checks.due(start.strip() + " is short", to - from < 60);
             }
         }
+    }
+
+    /** The text without its comments. */
+    private static String bare(String source) {
+        return source.replaceAll("(?s)/\\*.*?\\*/", " ").replaceAll("//.*", " ");
+    }
+
+    /** By the name of a method, what stands in it; methods of one name are taken for one. */
+    private static Map<String, String> bodies(String source) {
+        Map<String, String> bodies = new HashMap<>();
+        Matcher m = Pattern.compile("(?ms)^( +)(?:\\w[\\w\\[\\]]* )*(\\w+)\\([^)]*\\) \\{\n(.*?)^\\1\\}").matcher(bare(source));
+        while (m.find()) {
+            bodies.merge(m.group(2), m.group(3), String::concat);
+        }
+        return bodies;
+    }
+
+    /** No method calls itself, calls go at most eight deep, and none makes an object but for constructors. */
+    private static void depths(String source) {
+        Map<String, String> bodies = bodies(source);
+        Checks.due("methods that were found: " + bodies.size(), bodies.size() > 100);
+        for (Method method : ZoneShares.class.getDeclaredMethods()) {
+            Checks.due("found " + method.getName(), bodies.containsKey(method.getName()));
+        }
+        for (Class<?> inner : ZoneShares.class.getDeclaredClasses()) {
+            for (Method method : inner.getDeclaredMethods()) {
+                Checks.due("found " + method.getName(), bodies.containsKey(method.getName()));
+            }
+        }
+        for (Map.Entry<String, String> each : bodies.entrySet()) {
+            int deep = depth(each.getKey(), bodies, new HashSet<>());
+            Checks.due(each.getKey() + " goes " + deep + " deep", deep <= 8);
+            boolean makes = Pattern.compile("\\bnew\\b").matcher(each.getValue()).find();
+            Checks.due(each.getKey() + " makes no object", !makes || Character.isUpperCase(each.getKey().charAt(0)));
+        }
+    }
+
+    private static int depth(String name, Map<String, String> bodies, Set<String> open) {
+        if (!open.add(name)) {
+            return 1000;
+        }
+        int most = 0;
+        Matcher call = Pattern.compile("(?<!new )\\b(\\w+)\\(").matcher(bodies.get(name));
+        while (call.find()) {
+            if (bodies.containsKey(call.group(1))) {
+                most = Math.max(most, depth(call.group(1), bodies, open));
+            }
+        }
+        open.remove(name);
+        return 1 + most;
     }
 }

@@ -10,14 +10,17 @@ import java.util.regex.Matcher;
 import java.util.regex.Pattern;
 import java.util.stream.Stream;
 
-/** Every sentence of the document's Terms and promises is named by a test, word by word. */
+/**
+ * Every sentence of the document from its first line to the last promise is named by a test, word
+ * by word; but for the face, which RulesTest compares, and for what is not promised.
+ */
 public final class SentencesTest {
     private static final Pattern NAMED =
             Pattern.compile("says\\(\\s*\"(\\w+)\"\\s*,\\s*((?:\"(?:[^\"\\\\]|\\\\.)*\"\\s*\\+?\\s*)+)\\)");
 
     public static void main(String[] args) throws Exception {
         Map<String, String> sections = sections();
-        Checks.due("sections", sections.size(), 32);
+        Checks.due("sections", sections.size(), 34);
         Map<String, StringBuilder> left = new TreeMap<>();
         sections.forEach((name, text) -> left.put(name, new StringBuilder(text)));
         for (String[] named : named()) {
@@ -39,14 +42,18 @@ public final class SentencesTest {
         return text.replace("```text", " ").replace("```", " ").replaceAll("\\s+", " ").strip();
     }
 
-    /** The Terms I and II, and the promises by their numbers, without the line of the face. */
+    /** What it is, the Terms, the constants, and the promises by their numbers, without the line of the face. */
     private static Map<String, String> sections() throws IOException {
         String doc = Files.readString(Path.of("../shared/DOC.md"), StandardCharsets.UTF_8);
         Map<String, String> sections = new TreeMap<>();
+        int what = doc.indexOf("## What it is");
         int first = doc.indexOf("==== I. ");
         int second = doc.indexOf("==== II. ");
+        int constants = doc.indexOf("The constants:", second);
+        sections.put("What", plain(doc.substring(what + 13, doc.indexOf("\n## ", what))));
+        sections.put("Constants", plain(doc.substring(constants, doc.indexOf("\n## ", constants))));
         sections.put("I", plain(doc.substring(first + 8, second)));
-        sections.put("II", plain(doc.substring(second + 9, doc.indexOf("The constants:", second))));
+        sections.put("II", plain(doc.substring(second + 9, constants)));
         Matcher m = Pattern.compile("(?s)\n## Promise (\\d+): \\w[^\n]*\n(.*?)(?=\n## )").matcher(doc);
         while (m.find()) {
             sections.put(m.group(1), plain(m.group(2).replaceFirst("`[^`]*`:", "")));
